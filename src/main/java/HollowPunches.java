@@ -428,13 +428,10 @@ public final class HollowPunches {
         private static final long BOTTOM_ROW = 0xFFL << 56;
 
         static long block(int x, int y, int w, int h) {
+            long row = w <= 0 ? 0L : ((1L << w) - 1) << x;
             long squares = 0L;
-            for (int at = 0; at < 64; at++) {
-                int across = (at & 7) - x;
-                int down = (at >> 3) - y;
-                if (across >= 0 && across < w && down >= 0 && down < h) {
-                    squares |= 1L << at;
-                }
+            for (int down = 0; down < h; down++) {
+                squares |= row << 8 * (y + down);
             }
             return squares;
         }
@@ -954,7 +951,7 @@ public final class HollowPunches {
             for (int side = 0; side < 4; side++) {
                 long reached = Grid.reachedFrom(ink, side);
                 for (int i = 0; i < 8; i++) {
-                    long whole = side < 2 ? Grid.block(0, i, 8, 1) : Grid.block(i, 0, 1, 8);
+                    long whole = side < 2 ? Grid.TOP_ROW << 8 * i : Grid.LEFT_COLUMN << i;
                     boolean asOne = (side & 1) == 1 && (whole & ink) == 0;
                     takes[8 * side + i] = asOne ? 0L : reached & whole;
                 }
@@ -1290,10 +1287,12 @@ public final class HollowPunches {
         private final int[] broad = new int[MOST_LETTERS];
         private final int[] known = new int[MOST_SPREAD + 1];
         private final int[] free = new int[MOST_FREE];
-        private final int[] digit = new int[MOST_FREE];
         private final int[] wordBlack = new int[MOST_WORDS];
         private final int[] wordSpace = new int[MOST_WORDS];
+        private final int[] wordWider = new int[MOST_WORDS * MOST_FREE];
         private final int[] times = new int[MOST_WORDS * MOST_LETTERS];
+        private int best = 0;
+        private int bestRoom = 0;
 
         void lay(Sheet told) {
             letters = told.letters;
@@ -1343,7 +1342,7 @@ public final class HollowPunches {
 
         int unevenOf(int spread, int room) {
             layWords(spread, room);
-            return unevenBelow(Integer.MAX_VALUE);
+            return unevenAtLeast(NONE);
         }
 
         private void layWords(int spread, int room) {
@@ -1353,19 +1352,19 @@ public final class HollowPunches {
             }
         }
 
-        /** UNEVEN of the words laid; once it is no less than the bound it is not looked at further. */
-        private int unevenBelow(int bound) {
+        /**
+         * UNEVEN of the words laid, or, while free LETTERS 0 to at may still be given ROOM, a number that it can't be
+         * below then: a word's COLOUR lies between what it is now and what it is with all that ROOM.
+         */
+        private int unevenAtLeast(int at) {
             int greatest = 0;
             int least = Integer.MAX_VALUE;
             for (int word = 0; word < words; word++) {
-                int colour = colourBy(wordBlack[word], wordSpace[word]);
-                greatest = Math.max(greatest, colour);
-                least = Math.min(least, colour);
-                if (greatest - least >= bound) {
-                    return bound;
-                }
+                int wider = at >= 0 && at < MOST_FREE ? wordWider[MOST_FREE * word + at] : 0;
+                greatest = Math.max(greatest, colourBy(wordBlack[word], wordSpace[word] + wider));
+                least = Math.min(least, colourBy(wordBlack[word], wordSpace[word]));
             }
-            return words == 0 ? 0 : greatest - least;
+            return words == 0 ? 0 : Math.max(0, greatest - least);
         }
 
         int evenRoom(int spread) {
@@ -1378,25 +1377,16 @@ public final class HollowPunches {
             return known[spread];
         }
 
-        /** Every ROOM is tried from the least number on, so that the first of the best is kept. */
         private int findEvenRoom(int spread) {
             int many = listFree();
             if (many > MOST_FREE) {
                 return NONE;
             }
             layWords(spread, 0);
-            Arrays.fill(digit, 0);
-            int best = Integer.MAX_VALUE;
-            int bestRoom = 0;
-            int room = 0;
-            for (int step = 0; step < POWERS[many] && best > 0; step++) {
-                int uneven = unevenBelow(best);
-                if (uneven < best) {
-                    best = uneven;
-                    bestRoom = room;
-                }
-                room += widen(many);
-            }
+            layWider(many);
+            best = Integer.MAX_VALUE;
+            bestRoom = 0;
+            seekEven(this, many - 1, 0);
             return bestRoom;
         }
 
@@ -1418,21 +1408,42 @@ public final class HollowPunches {
             return many;
         }
 
-        /** Goes to the next ROOM: by how much it is more as a number. */
-        private int widen(int many) {
-            int more = 0;
-            for (int i = 0; i < many && i < MOST_FREE; i++) {
-                int change = digit[i] == 4 ? -4 : 1;
-                digit[i] += change;
-                more += change * POWERS[free[i]];
-                for (int word = 0; word < words; word++) {
-                    wordSpace[word] += change * times[MOST_LETTERS * word + free[i]];
-                }
-                if (change == 1) {
-                    break;
+        /** How much wider each word is if free LETTERS 0 to at have all the ROOM that they may. */
+        private void layWider(int many) {
+            for (int word = 0; word < words; word++) {
+                int wider = 0;
+                for (int at = 0; at < many && at < MOST_FREE; at++) {
+                    wider += 4 * times[MOST_LETTERS * word + free[at]];
+                    wordWider[MOST_FREE * word + at] = wider;
                 }
             }
-            return more;
+        }
+
+        private void widen(int at, int by) {
+            for (int word = 0; word < words && at >= 0 && at < MOST_FREE; word++) {
+                wordSpace[word] += by * times[MOST_LETTERS * word + free[at]];
+            }
+        }
+
+        /**
+         * Tries all ROOM of free LETTERS 0 to at, the least number first, so that the first of the best is kept; what
+         * can't be better than that is passed over.
+         */
+        private static void seekEven(Setting s, int at, int room) {
+            int uneven = s.unevenAtLeast(at);
+            if (uneven >= s.best || at >= MOST_FREE) {
+                return;
+            }
+            if (at < 0) {
+                s.best = uneven;
+                s.bestRoom = room;
+                return;
+            }
+            for (int digit = 0; digit < 5; digit++) {
+                seekEven(s, at - 1, room + digit * POWERS[s.free[at]]);
+                s.widen(at, 1);
+            }
+            s.widen(at, -5);
         }
 
         int spreadNearest(int colour) {
