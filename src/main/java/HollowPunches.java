@@ -14,7 +14,6 @@ public final class HollowPunches {
     private static final int MOST_HOLLOWS = 16;
     private static final int MOST_ACTS = 40;
     private static final int MOST_PRINTS = 8;
-    private static final int MOST_IMAGES = 3;
     private static final int MOST_SIZE = 9;
     private static final int MOST_SPREAD = 16;
     private static final int MOST_APART = 64;
@@ -1001,7 +1000,7 @@ public final class HollowPunches {
                     open &= ~takes[line];
                 }
             }
-            layCrossings(open, without);
+            layCrossings(open);
             return wanted + mostPairs();
         }
 
@@ -1015,13 +1014,13 @@ public final class HollowPunches {
             return taken;
         }
 
-        private void layCrossings(long open, long without) {
+        /** Lines that are left out cross none here: all their squares were single, and are no longer open. */
+        private void layCrossings(long open) {
             for (int row = 0; row < HALF; row++) {
                 crossing[row] = 0;
-                long along = (without & 1L << row) == 0 ? takes[row] & open : 0L;
+                long along = takes[row] & open;
                 for (int column = 0; column < HALF && along != 0; column++) {
-                    boolean there = (without & 1L << HALF + column) == 0;
-                    if (there && (along & takes[HALF + column]) != 0) {
+                    if ((along & takes[HALF + column]) != 0) {
                         crossing[row] |= 1 << column;
                     }
                 }

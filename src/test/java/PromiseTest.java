@@ -130,6 +130,8 @@ public final class PromiseTest {
         fault("letter;;", 1, 7);
         fault("letter;lette;", 1, 7);
         fault("letter;letterr;", 1, 7);
+        fault("letterz;", 1, 0);
+        fault("aletter;", 1, 0);
         fault("letter,", 1, 6);
         fault("letter  ", 1, 8);
         fault("letter 0;", 1, 7);
@@ -199,6 +201,13 @@ public final class PromiseTest {
         fault("letter;" + times(7, "word 0;"), 3, 49);
         fault("letter;" + times(6, "word 0;") + "word;", 3, 49);
         fault(times(10, "letter;") + "word 9876543;", 0, 10);
+        fault(times(500, " "), 0, 0);
+        fault(times(500, "z"), 1, 0);
+        fault("letter;bar " + times(489, "0"), 1, 500);
+        fault("letter;bar " + times(489, "1"), 2, 11);
+        fault("letter;word " + times(488, "0"), 2, 12);
+        fault(times(493, " ") + "letter;", 0, 1);
+        fault(times(494, " ") + "letter", 1, 500);
         check.promise(3);
         String most = times(10, "letter;") + times(6, "word0;") + times(39, "spread1 1;");
         check.same("the most clauses that 500 bytes hold", sheetOf(most), 10);
@@ -370,8 +379,8 @@ public final class PromiseTest {
 
     private static void bites() {
         check.promise(13);
-        HollowPunches x = Texts.of(O + "letter;letter;bar 0 0 8 8;letter;bar 0 0 8 8;cut 2 0 1 3;cut 0 5 2 1;cut 7 5 1 1;"
-                + "letter;bar 0 0 7 7;letter;bar 1 0 7 8;");
+        HollowPunches x = Texts.of(O + "letter;letter;bar 0 0 8 8;"
+                + "letter;bar 0 0 8 8;cut 2 0 1 3;cut 0 5 2 1;cut 7 5 1 1;letter;bar 0 0 7 7;letter;bar 1 0 7 8;");
         check.same("o", x.bites(0, 0), 8);
         check.same("o", x.bites(0, 1), 8);
         check.same("no ink", x.bites(1, 0), 8);
@@ -648,6 +657,15 @@ public final class PromiseTest {
         check.illegal("size", () -> x.colour(0, 10, 0));
         check.illegal("room", () -> x.colour(0, 1, -1));
         check.illegal("room", () -> x.colour(0, 1, 9765625));
+        HollowPunches ten = Texts.of(times(10, "letter;bar 0 0 1 1;") + "word 0;word 2;word 3;word 5;word 7;word 9;");
+        int room = 1;
+        for (int letter = 0; letter < 10; letter++) {
+            for (int word = 0; word < 6; word++) {
+                boolean its = letter == new int[] {0, 2, 3, 5, 7, 9}[word];
+                check.same("room of " + letter, ten.colour(word, 1, 4 * room), its ? 300 : 1500);
+            }
+            room *= 5;
+        }
         check.promise(28);
         check.same("uneven", x.uneven(1, 0), 10000);
         HollowPunches y = Texts.of(O + "letter;bar 0 0 1 8;word 01;word 0;word 11;");
@@ -801,6 +819,16 @@ public final class PromiseTest {
         x.file(0, 0, 1);
         check.promise(34);
         check.same("not good", x.can(), false);
+        HollowPunches one = Texts.of("letter;ring 0 0 6 6;cut 4 5 1 1;");
+        one.begin(0);
+        one.file(3, 4, 3);
+        check.same("not beside the hollow", one.can(), true);
+        one.file(3, 4, 4);
+        check.same("beside the hollow", one.can(), false);
+        one.begin(0);
+        one.blow(0);
+        one.file(3, 4, 4);
+        check.same("the hollow is gone", one.can(), true);
         HollowPunches done = Texts.of("letter;bar 0 0 8 8;");
         done.begin(0);
         check.same("all ink", done.can(), true);
@@ -810,10 +838,15 @@ public final class PromiseTest {
 
     private static void nearest() {
         check.promise(37);
-        HollowPunches x = Texts.of("letter;bar 0 0 8 8;cut 1 1 1 2;cut 2 2 1 1;letter;bar 0 0 8 8;cut 1 1 1 3;cut 2 3 1 1;");
+        HollowPunches x = Texts.of("letter;bar 0 0 8 8;cut 1 1 1 2;cut 2 2 1 1;"
+                + "letter;bar 0 0 8 8;cut 1 1 1 3;cut 2 3 1 1;");
         check.same("the hollow is turned", x.nearest(Texts.squares("#", "##"), false, 0), 0);
         check.same("by 0", x.nearest(Texts.squares("#", "##"), false, 1), 0);
         check.same("the first of the best", x.nearest(Texts.squares("##", "##"), false, 0), 0);
+        check.same("by 2", x.nearest(Texts.squares("#"), false, 1), 2);
+        check.same("by 3 from the other", x.nearest(Texts.squares("#"), false, 0), 0);
+        HollowPunches twice = Texts.of("letter;bar 0 0 8 8;cut 1 1 1 1;cut 3 3 1 1;cut 5 5 1 1;");
+        check.same("all alike", twice.nearest(2, false, 0), 0);
         check.same("the other", x.nearest(Texts.squares("###", "#") << 27, false, 0), 1);
         check.same("a mirror image", x.nearest(Texts.squares("####", "#"), false, 1), 1);
         check.same("no mirrors", x.nearest(Texts.squares("###", "..#"), false, 1), 2);
