@@ -1,5 +1,5 @@
 /** Counts what is right and tells what is not. */
-final class Check {
+class Check {
     private int right = 0;
     private int wrong = 0;
     private int promise = 0;
@@ -8,17 +8,30 @@ final class Check {
         promise = number;
     }
 
+    /** What the checks that come now hold the class against. */
+    String under() {
+        return "promise " + promise;
+    }
+
+    int checks() {
+        return right + wrong;
+    }
+
     void same(String call, long got, long due) {
         if (got == due) {
             right++;
         } else {
-            wrong++;
-            System.out.println("promise " + promise + ": " + call + " answered " + got + ", due is " + due);
+            fail(call + " answered " + got + ", due is " + due);
         }
     }
 
     void same(String call, boolean got, boolean due) {
         same(call, got ? 1 : 0, due ? 1 : 0);
+    }
+
+    void fail(String told) {
+        wrong++;
+        System.out.println(under() + ": " + told);
     }
 
     void illegal(String call, Runnable run) {
@@ -43,8 +56,7 @@ final class Check {
         if (got == due) {
             right++;
         } else {
-            wrong++;
-            System.out.println("promise " + promise + ": " + call + " threw " + got + ", due is " + due);
+            fail(call + " threw " + got + ", due is " + due);
         }
     }
 

@@ -1,5 +1,3 @@
-import java.util.Collections;
-
 /** Each promise of the document with answers worked out by hand: ordinary ones, edges, wrong inputs. */
 public final class PromiseTest {
     private static final Check check = new Check();
@@ -188,7 +186,7 @@ public final class PromiseTest {
     }
 
     private static String times(int n, String text) {
-        return String.join("", Collections.nCopies(n, text));
+        return Texts.times(n, text);
     }
 
     private static void limits() {

@@ -28,6 +28,10 @@ final class Texts {
         return all.charAt(at) << 24 | all.charAt(at + 1) << 16 | all.charAt(at + 2) << 8 | all.charAt(at + 3);
     }
 
+    static String times(int n, String text) {
+        return text.repeat(n);
+    }
+
     /** Rows from above, each from the left: '#' is a square. */
     static long squares(String... rows) {
         long bits = 0;
