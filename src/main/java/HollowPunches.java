@@ -1277,6 +1277,8 @@ public final class HollowPunches {
     private static final class Setting {
         private static final int UNKNOWN = -2;
         private static final int MOST_FREE = 6;
+        /** No COLOUR is above 24,000, and none that is told above 99,999. */
+        private static final int ABOVE_ALL = 1000000;
         private static final int[] POWERS = {1, 5, 25, 125, 625, 3125, 15625, 78125, 390625, 1953125};
 
         private int letters = 0;
@@ -1357,7 +1359,7 @@ public final class HollowPunches {
          */
         private int unevenAtLeast(int at) {
             int greatest = 0;
-            int least = Integer.MAX_VALUE;
+            int least = ABOVE_ALL;
             for (int word = 0; word < words; word++) {
                 int wider = at >= 0 && at < MOST_FREE ? wordWider[MOST_FREE * word + at] : 0;
                 greatest = Math.max(greatest, colourBy(wordBlack[word], wordSpace[word] + wider));
@@ -1383,7 +1385,7 @@ public final class HollowPunches {
             }
             layWords(spread, 0);
             layWider(many);
-            best = Integer.MAX_VALUE;
+            best = ABOVE_ALL;
             bestRoom = 0;
             seekEven(this, many - 1, 0);
             return bestRoom;
@@ -1450,7 +1452,7 @@ public final class HollowPunches {
                 return NONE;
             }
             int best = NONE;
-            int least = Integer.MAX_VALUE;
+            int least = ABOVE_ALL;
             for (int spread = 0; spread <= MOST_SPREAD; spread++) {
                 int sum = 0;
                 for (int word = 0; word < words; word++) {

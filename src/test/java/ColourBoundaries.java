@@ -1,19 +1,14 @@
 /** Boundary cases of ink, words and prints: promises 26 to 33, and the terms' fourth part. */
-final class ColourBoundaries {
-    private static final int NONE = HollowPunches.NONE;
-    private static final int LOW = Integer.MIN_VALUE;
-    private static final int HIGH = Integer.MAX_VALUE;
+final class ColourBoundaries extends Boundaries {
     private static final int MOST_ROOM = 9765624;
-    private static final String FULL = "letter;bar 0 0 8 8;";
     /** One column at the rim: BLACK 128 and 8 G, BROAD 1. */
     private static final String COLUMN = "letter;bar 0 0 1 8;";
 
-    private final DocCheck check;
-
     ColourBoundaries(DocCheck check) {
-        this.check = check;
+        super(check);
     }
 
+    @Override
     void run() {
         edges();
         black();
@@ -38,8 +33,8 @@ final class ColourBoundaries {
     }
 
     private void edges() {
-        check.says(26, "BLACK of a LETTER at a SIZE: 16 times its squares with INK, and G times its EDGE (those without "
-                + "that have one with INK beside, by a side).");
+        check.says(26, "BLACK of a LETTER at a SIZE: 16 times its squares with INK, and G times its EDGE (those "
+                + "without that have one with INK beside, by a side).");
         HollowPunches x = Texts.of("letter;" + FULL + "letter;bar 3 3 1 1;letter;bar 7 0 1 1;letter;bar 0 7 1 1;"
                 + "letter;bar 1 1 1 1;bar 2 2 1 1;letter;ring 0 0 3 3;spread 1 0;spread 2 16;");
         int[] ink = {0, 64, 1, 1, 1, 2, 8};
@@ -87,8 +82,8 @@ final class ColourBoundaries {
     }
 
     private void colours() {
-        check.says(27, "COLOUR of a WORD at a SIZE with ROOM r (digits to the base 5, LETTER 0 the lowest: 0 to 4 for "
-                + "each): 1,000 times BLACK of all its LETTERS by 16 times (BROAD and ROOM of each, together) "
+        check.says(27, "COLOUR of a WORD at a SIZE with ROOM r (digits to the base 5, LETTER 0 the lowest: 0 to 4 "
+                + "for each): 1,000 times BLACK of all its LETTERS by 16 times (BROAD and ROOM of each, together) "
                 + "(cut; 0, if that is 0).");
         HollowPunches x = Texts.of("letter;" + FULL + "letter;bar 3 0 1 8;letter;bar 0 0 3 1;word 0;word 00000000;"
                 + "word 11111111;word 22222222;word 02;word 3;spread 2 16;spread 3 0;");
@@ -147,7 +142,8 @@ final class ColourBoundaries {
         check.says(28, "UNEVEN: the greatest COLOUR of all WORDS less the least.");
         HollowPunches one = Texts.of(FULL + "word 0;");
         check.same("one word", one.uneven(1, 0), 0);
-        HollowPunches x = Texts.of(FULL + "letter;" + COLUMN + "word 0;word 2;word 1;word 02;word 2;word 0;spread 2 0;");
+        HollowPunches x = Texts.of(FULL + "letter;" + COLUMN
+                + "word 0;word 2;word 1;word 02;word 2;word 0;spread 2 0;");
         check.same("8000, 10000, 0, 8222", x.uneven(1, 0), 10000);
         check.same("8000, 8000, 0, 8000", x.uneven(2, 0), 8000);
         HollowPunches y = Texts.of(FULL + COLUMN + "word 0;word 1;word 1;spread 2 0;");
@@ -166,8 +162,8 @@ final class ColourBoundaries {
     }
 
     private void even() {
-        check.says(29, "EVEN: the ROOM of LETTERS that come in WORDS (others 0) with the least UNEVEN at a SIZE, of these "
-                + "the least as a number;");
+        check.says(29, "EVEN: the ROOM of LETTERS that come in WORDS (others 0) with the least UNEVEN at a SIZE, of "
+                + "these the least as a number;");
         HollowPunches alike = Texts.of(FULL + FULL + "word 0;word 1;");
         check.same("of many that are even the least", alike.even(1), 0);
         HollowPunches one = Texts.of(FULL + COLUMN + "word 01;");
@@ -201,9 +197,10 @@ final class ColourBoundaries {
         String[] words = {"word 0;word 1;word 2;", "word 012;word 2;word 110;", "word 00000001;word 12;word 2;word 1;",
             "word 01;word 02;word 12;"};
         for (int kind = 0; kind < 60; kind++) {
-            HollowPunches x = Texts.of("letter;bar 0 0 " + (1 + kind % 5) + " 8;letter;bar 1 1 " + (1 + kind / 5 % 4) + " "
-                    + (1 + kind / 20 * 3) + ";letter;ring 2 2 " + (1 + kind % 6) + " " + (1 + kind % 4) + ";"
-                    + words[kind % 4]);
+            String first = "letter;bar 0 0 " + (1 + kind % 5) + " 8;";
+            String second = "letter;bar 1 1 " + (1 + kind / 5 % 4) + " " + (1 + kind / 20 * 3) + ";";
+            String third = "letter;ring 2 2 " + (1 + kind % 6) + " " + (1 + kind % 4) + ";";
+            HollowPunches x = Texts.of(first + second + third + words[kind % 4]);
             int best = 0;
             for (int room = 1; room < 125; room++) {
                 best = x.uneven(1, room) < x.uneven(1, best) ? room : best;
@@ -239,8 +236,8 @@ final class ColourBoundaries {
     }
 
     private void press() {
-        check.says(30, "PRESS: of spreads 0 to 16 the one by which the mean COLOUR of all WORDS (cut), ROOM 0, is nearest "
-                + "to a told one, of these the least.");
+        check.says(30, "PRESS: of spreads 0 to 16 the one by which the mean COLOUR of all WORDS (cut), ROOM 0, is "
+                + "nearest to a told one, of these the least.");
         // A column: 8000 and 500 G
         HollowPunches x = Texts.of(COLUMN + "word 0;spread 1 9;");
         check.same("below all", x.press(0), 0);
@@ -356,8 +353,8 @@ final class ColourBoundaries {
     }
 
     private void partings() {
-        check.says(33, "A PARTING: all PRINTS in groups, in each of which all are KIN of each other: how many there are; "
-                + "the fewest groups; PRINTS that are alone in each PARTING (bits).");
+        check.says(33, "A PARTING: all PRINTS in groups, in each of which all are KIN of each other: how many there "
+                + "are; the fewest groups; PRINTS that are alone in each PARTING (bits).");
         HollowPunches eight = printed(1, 2, 4, 8, 16, 32, 64, 128);
         check.same("eight alike", eight.partings(0, false, 0), 4140);
         check.same("one group", eight.partings(0, false, 1), 1);

@@ -1,24 +1,13 @@
 /** Boundary cases of what can still be done, of nearest, originals, founts and images: promises 34 to 42. */
-final class EndBoundaries {
-    private static final int NONE = HollowPunches.NONE;
-    private static final int LOW = Integer.MIN_VALUE;
-    private static final int HIGH = Integer.MAX_VALUE;
-    private static final String FULL = "letter;bar 0 0 8 8;";
-    private static final String O = "letter;ring 0 0 4 4;";
-    private static final String GREAT_RING = "letter;ring 0 0 8 8;";
+final class EndBoundaries extends Boundaries {
     /** Two hollows, and a slot between them that opens below. */
     private static final String SLOT = "letter;ring 0 0 6 6;cut 2 5 1 1;";
-    private static final String NINE = FULL + "cut 1 1 1 1;cut 3 1 1 1;cut 5 1 1 1;cut 1 3 1 1;cut 3 3 1 1;"
-            + "cut 5 3 1 1;cut 1 5 1 1;cut 3 5 1 1;cut 5 5 1 1;";
-    private static final String NEXT_NINE = "cut 2 2 1 1;cut 4 2 1 1;cut 6 2 1 1;cut 2 4 1 1;cut 4 4 1 1;"
-            + "cut 6 4 1 1;cut 2 6 1 1;cut 4 6 1 1;cut 6 6 1 1;";
-
-    private final DocCheck check;
 
     EndBoundaries(DocCheck check) {
-        this.check = check;
+        super(check);
     }
 
+    @Override
     void run() {
         can();
         canBesideGone();
@@ -40,15 +29,9 @@ final class EndBoundaries {
         counts();
     }
 
-    private static HollowPunches begun(String text) {
-        HollowPunches x = Texts.of(text);
-        x.begin(0);
-        return x;
-    }
-
     private void can() {
-        check.says(34, "A PUNCH CAN still be DONE, if it is GOOD, and no HOLLOW of it that has squares there yet has a square "
-                + "beside it (by a side, on the grid; none of it) that is gone.");
+        check.says(34, "A PUNCH CAN still be DONE, if it is GOOD, and no HOLLOW of it that has squares there yet "
+                + "has a square beside it (by a side, on the grid; none of it) that is gone.");
         HollowPunches slot = begun(SLOT);
         check.same("a new one", slot.can(), true);
         slot.file(3, 2, 3);
@@ -118,8 +101,8 @@ final class EndBoundaries {
     }
 
     private void left() {
-        check.says(35, "LEFT: how many of its HOLLOWS have squares there yet, and the fewest LINES that take all squares "
-                + "REACHED that are there yet, together.");
+        check.says(35, "LEFT: how many of its HOLLOWS have squares there yet, and the fewest LINES that take all "
+                + "squares REACHED that are there yet, together.");
         HollowPunches slot = begun(SLOT);
         check.same("two hollows, a slot, two rows and two columns", slot.left(), 2 + 1 + 4);
         slot.blow(0);
@@ -162,14 +145,15 @@ final class EndBoundaries {
         check.same("not good", x.left(), NONE);
         x.begin(0);
         check.same("a new one", x.left(), 7);
-        HollowPunches others = Texts.of(NINE + NEXT_NINE + O);
+        HollowPunches others = Texts.of(EIGHTEEN + O);
         others.begin(1);
         check.same("a hollow behind the 16th is none", others.left(), 8);
         check.same("a new object", new HollowPunches().left(), NONE);
     }
 
     private void bars() {
-        check.says(36, "STEEL: how many PUNCHES are begun till one is DONE, by chances (as of HOURS): 1,000 times (cut).");
+        check.says(36, "STEEL: how many PUNCHES are begun till one is DONE, by chances (as of HOURS): 1,000 times "
+                + "(cut).");
         HollowPunches x = Texts.of(FULL + "letter;" + GREAT_RING + FULL + "cut 1 1 2 2;");
         check.same("no acts: one", x.bars(0, 15, 15), 1000);
         check.same("no slips: one", x.bars(1, 15, 0), 1000);
@@ -204,8 +188,8 @@ final class EndBoundaries {
     }
 
     private void nearest() {
-        check.says(37, "NEAREST: of all HOLLOWS that which, as the first one, is least APART from told squares, of these "
-                + "the first.");
+        check.says(37, "NEAREST: of all HOLLOWS that which, as the first one, is least APART from told squares, of "
+                + "these the first.");
         // Hollows: a single square, an L of 3 (its corner at the lower right), the same L once more
         HollowPunches x = Texts.of(FULL + "cut 1 1 1 1;cut 4 1 1 2;cut 3 2 1 1;cut 4 4 1 2;cut 3 5 1 1;");
         check.same("three hollows", x.told(2), 3);
@@ -233,10 +217,8 @@ final class EndBoundaries {
         HollowPunches none = Texts.of("letter;" + FULL);
         check.same("no hollows", none.nearest(1, false, 0), NONE);
         check.same("no hollows", none.nearest(-1L, true, 1), NONE);
-        HollowPunches sixteen = Texts.of(NINE + NEXT_NINE.replace("cut 4 6 1 1;cut 6 6 1 1;", "")
-                .replace("cut 2 6 1 1;", "cut 2 6 1 1;bar 3 5 1 1;cut 3 6 1 1;"));
-        int last = sixteen.told(2) - 1;
-        check.same("the last one, of two squares", sixteen.nearest(3, false, 0), last);
+        HollowPunches sixteen = Texts.of(LAST_OF_TWO);
+        check.same("the last one, of two squares", sixteen.nearest(3, false, 0), 15);
         check.same("by 0", sixteen.nearest(3, false, 1), 0);
         check.says(37, "IllegalArgumentException: squares 0, what.");
         HollowPunches x = Texts.of(O);
@@ -250,8 +232,8 @@ final class EndBoundaries {
     }
 
     private void twins() {
-        check.says(38, "TWINS are two LETTERS with INK, of which one's SHAPE is that of some quarter turn of the other one "
-                + "(with mirrors: of its mirror image, too):");
+        check.says(38, "TWINS are two LETTERS with INK, of which one's SHAPE is that of some quarter turn of the "
+                + "other one (with mirrors: of its mirror image, too):");
         String l = "letter;bar 0 0 1 3;bar 1 2 1 1;";
         String moved = "letter;bar 5 4 1 3;bar 6 6 1 1;";
         String quarter = "letter;bar 5 7 3 1;bar 7 6 1 1;";
@@ -289,9 +271,9 @@ final class EndBoundaries {
     }
 
     private void founts() {
-        check.says(39, "FOUNT of SIZES (bits: 0 for SIZE 1, .., 8 for 9): the fewest groups so that in each 16 times the "
-                + "greatest SIZE, times itself, is no more than 16 and t (0 to 99) times the least one, times itself; "
-                + "times COUNTERPUNCHES (within 0).");
+        check.says(39, "FOUNT of SIZES (bits: 0 for SIZE 1, .., 8 for 9): the fewest groups so that in each 16 "
+                + "times the greatest SIZE, times itself, is no more than 16 and t (0 to 99) times the least one, "
+                + "times itself; times COUNTERPUNCHES (within 0).");
         HollowPunches x = Texts.of(O);
         for (int size = 1; size <= 9; size++) {
             check.same("one size", x.fount(1 << size - 1, 0, false), 1);

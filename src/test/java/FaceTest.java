@@ -32,7 +32,7 @@ public final class FaceTest {
     private static final String[] FORBIDDEN = {
         "->", "::", "\\bcatch\\b", "\\bfinally\\b", "\\btry\\b", "\\bsynchronized\\b", "\\bassert\\b",
         "\\bwhile \\(true\\)", "for \\([^;]*; ;", "\\bSystem\\.(?!arraycopy)", "\\bObject\\b", "\\bRandom\\b",
-        "\\bArrays\\.(?!fill)", "\\bMath\\.(?!min|max|abs)", "\\b(?:Long|Integer)\\.(?!bitCount|MAX_VALUE)",
+        "\\bArrays\\.(?!fill)", "\\bMath\\.(?!min|max|abs)", "\\b(?:Long|Integer)\\.(?!bitCount)",
         "Exact\\(", "\\bdouble\\b", "\\bfloat\\b", "\\bstatic \\{", "\\bprotected\\b", "\\bnull\\b",
     };
 

@@ -1,22 +1,12 @@
 /** Boundary cases of punches, plans and hours: promises 15 to 25, and the terms' third part. */
-final class PunchBoundaries {
-    private static final int NONE = HollowPunches.NONE;
-    private static final int LOW = Integer.MIN_VALUE;
-    private static final int HIGH = Integer.MAX_VALUE;
-    private static final String FULL = "letter;bar 0 0 8 8;";
-    private static final String O = "letter;ring 0 0 4 4;";
-    private static final String GREAT_RING = "letter;ring 0 0 8 8;";
-    /** Nine hollows of one square each. */
-    private static final String NINE = FULL + "cut 1 1 1 1;cut 3 1 1 1;cut 5 1 1 1;cut 1 3 1 1;cut 3 3 1 1;"
-            + "cut 5 3 1 1;cut 1 5 1 1;cut 3 5 1 1;cut 5 5 1 1;";
+final class PunchBoundaries extends Boundaries {
     private static final long CORNERS = 0x8100000000000081L;
 
-    private final DocCheck check;
-
     PunchBoundaries(DocCheck check) {
-        this.check = check;
+        super(check);
     }
 
+    @Override
     void run() {
         begins();
         blows();
@@ -77,12 +67,6 @@ final class PunchBoundaries {
         return x.steel();
     }
 
-    private static HollowPunches begun(String text) {
-        HollowPunches x = Texts.of(text);
-        x.begin(0);
-        return x;
-    }
-
     private void blows() {
         check.says(16, "ACTS: a BLOW of a HOLLOW of it: all its squares go;");
         HollowPunches great = begun(GREAT_RING);
@@ -98,8 +82,8 @@ final class PunchBoundaries {
     }
 
     private void bursts() {
-        check.says(16, "it BURSTS (and goes all the same, with all four beside each of them), if a square that is beside "
-                + "one of them by a side (on the grid) is gone already, and is none of it.");
+        check.says(16, "it BURSTS (and goes all the same, with all four beside each of them), if a square that is "
+                + "beside one of them by a side (on the grid) is gone already, and is none of it.");
         HollowPunches great = begun(GREAT_RING);
         great.file(0, 1, 1);
         check.same("36, and 24 beside, less one gone", great.blow(0), 36 + 24 - 1);
@@ -348,8 +332,8 @@ final class PunchBoundaries {
     }
 
     private void judged() {
-        check.says(23, "A PLAN: ACTS, 40 at most, from a new PUNCH: JUDGED: the number of the first ACT behind which it "
-                + "is not GOOD, NONE without; whether it is DONE behind all.");
+        check.says(23, "A PLAN: ACTS, 40 at most, from a new PUNCH: JUDGED: the number of the first ACT behind "
+                + "which it is not GOOD, NONE without; whether it is DONE behind all.");
         HollowPunches x = Texts.of(O + FULL);
         check.same("an empty plan", x.judge(0, 0), NONE);
         check.same("an empty plan is not done", x.judge(0, 1), 0);
@@ -400,8 +384,8 @@ final class PunchBoundaries {
     }
 
     private void judgeAnswers() {
-        check.says(23, "JUDGED for a LETTER (BLOWS of HOLLOWS of others do nothing): the first (what 0; NONE), whether it "
-                + "is DONE (1: 1, 0).");
+        check.says(23, "JUDGED for a LETTER (BLOWS of HOLLOWS of others do nothing): the first (what 0; NONE), "
+                + "whether it is DONE (1: 1, 0).");
         HollowPunches x = Texts.of(FULL + "cut 1 1 1 1;" + FULL + "cut 1 1 1 1;" + FULL);
         x.addBlow(0);
         check.same("its own", x.judge(0, 1), 1);
@@ -444,8 +428,8 @@ final class PunchBoundaries {
     }
 
     private void blowChances() {
-        check.says(24, "A BLOW takes as many MINUTES as squares, and fails with c and a quarter of its squares (cut) of 16 "
-                + "(15 at most);");
+        check.says(24, "A BLOW takes as many MINUTES as squares, and fails with c and a quarter of its squares "
+                + "(cut) of 16 (15 at most);");
         HollowPunches x = Texts.of(FULL + "cut 1 1 3 1;" + FULL + "cut 1 1 2 2;" + FULL + "cut 1 1 6 1;cut 1 2 1 1;"
                 + FULL + "cut 1 1 4 2;" + GREAT_RING);
         check.same("3 squares: 0 of 16", x.hours(0, 0, 0), 3000);
@@ -463,8 +447,8 @@ final class PunchBoundaries {
     }
 
     private void biteChances() {
-        check.says(24, "a BITE takes as many MINUTES as squares REACHED that it takes, and fails with s of 16 "
-                + "(c, s 0 to 15).");
+        check.says(24, "a BITE takes as many MINUTES as squares REACHED that it takes, and fails with s of 16 (c, s "
+                + "0 to 15).");
         HollowPunches x = Texts.of(FULL + "cut 0 3 2 1;" + FULL + "cut 0 2 8 1;cut 2 0 1 8;" + "letter;");
         check.same("2 squares, s 0", x.hours(0, 0, 0), 2000);
         check.same("2 squares, s 8", x.hours(0, 0, 8), 4000);
@@ -490,15 +474,15 @@ final class PunchBoundaries {
     }
 
     private void means() {
-        check.says(24, "MEAN: MINUTES till it is DONE, by chances, in the best order of BLOWS, then of BITES: each row of "
-                + "ACTS by MINUTES of each times the chance that all ahead go well, all together, by the chance that all "
-                + "do: 1,000 times (cut);");
+        check.says(24, "MEAN: MINUTES till it is DONE, by chances, in the best order of BLOWS, then of BITES: each "
+                + "row of ACTS by MINUTES of each times the chance that all ahead go well, all together, by the "
+                + "chance that all do: 1,000 times (cut);");
         HollowPunches x = Texts.of("letter;" + FULL + O);
         check.same("no chance", x.hours(0, 0, 0), 64000);
         check.same("by halves: 8 times (2 + .. + 256)", x.hours(0, 0, 8), 4080000);
         check.same("by 1 of 16: 8 times (16 + .. + 16^8)", x.hours(0, 0, 15), 8000L * ((1L << 36) - 16) / 15);
         check.same("no acts: 0", x.hours(1, 15, 15), 0);
-        // 4 by 1 of 16, then four bites of 4 and four of 8 by 1 of 16: 4 * 16^9 + 4 (16^8 + .. + 16^5) + 8 (16^4 + .. + 16)
+        // A blow of 4, four bites of 4, four of 8: 4 * 16^9 + 4 (16^8 + .. + 16^5) + 8 (16^4 + .. + 16)
         long sum = 4 * (1L << 36) + 4 * ((1L << 32) + (1L << 28) + (1L << 24) + (1L << 20))
                 + 8 * ((1L << 16) + (1L << 12) + (1L << 8) + 16);
         check.same("by 1 of 16, the short bites first", x.hours(2, 15, 15), 1000 * sum);
@@ -525,8 +509,8 @@ final class PunchBoundaries {
     }
 
     private void without() {
-        check.says(25, "In a row of ACTS one of MINUTES t that fails with f of 16 stands the sooner the less t by f is "
-                + "(f 0: last).");
+        check.says(25, "In a row of ACTS one of MINUTES t that fails with f of 16 stands the sooner the less t by f "
+                + "is (f 0: last).");
         // Hollows of 3, 4, 1 and 9 squares: with c 0 fails of 0, 1, 0, 2
         HollowPunches x = Texts.of(FULL + "cut 1 1 3 1;cut 5 1 2 2;cut 1 3 1 1;cut 3 4 3 3;");
         int[] cs = {0, 1, 14};

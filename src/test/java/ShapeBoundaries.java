@@ -1,27 +1,16 @@
 /** Boundary cases of squares, hollows, counterpunches and bites: promises 6 to 14, and the terms' second part. */
-final class ShapeBoundaries {
-    private static final int NONE = HollowPunches.NONE;
-    private static final int LOW = Integer.MIN_VALUE;
-    private static final int HIGH = Integer.MAX_VALUE;
-    private static final String FULL = "letter;bar 0 0 8 8;";
-    private static final String O = "letter;ring 0 0 4 4;";
-    /** Hollows of one square each, nine and eighteen of them. */
-    private static final String NINE = FULL + "cut 1 1 1 1;cut 3 1 1 1;cut 5 1 1 1;cut 1 3 1 1;cut 3 3 1 1;"
-            + "cut 5 3 1 1;cut 1 5 1 1;cut 3 5 1 1;cut 5 5 1 1;";
-    private static final String EIGHTEEN = NINE + "cut 2 2 1 1;cut 4 2 1 1;cut 6 2 1 1;cut 2 4 1 1;cut 4 4 1 1;"
-            + "cut 6 4 1 1;cut 2 6 1 1;cut 4 6 1 1;cut 6 6 1 1;";
+final class ShapeBoundaries extends Boundaries {
     /** An L of four squares in its four quarter turns: hollows 0 to 3. */
     private static final String TURNED_L = FULL + "cut 1 1 1 3;cut 2 3 1 1;cut 4 1 3 1;cut 4 2 1 1;"
             + "cut 5 4 2 1;cut 6 5 1 2;cut 3 5 1 1;cut 1 6 3 1;";
     /** Rows of 2, 3, 1 and 4 squares: hollows 0 to 3. */
     private static final String ROWS = FULL + "cut 1 1 2 1;cut 4 1 3 1;cut 1 3 1 1;cut 3 3 4 1;";
 
-    private final DocCheck check;
-
     ShapeBoundaries(DocCheck check) {
-        this.check = check;
+        super(check);
     }
 
+    @Override
     void run() {
         bits();
         squares();
@@ -77,8 +66,8 @@ final class ShapeBoundaries {
     }
 
     private void reached() {
-        check.says(6, "REACHED by a file is a square without INK, if on its row, or column, all squares from it to the "
-                + "rim, on some side, have none.");
+        check.says(6, "REACHED by a file is a square without INK, if on its row, or column, all squares from it to "
+                + "the rim, on some side, have none.");
         // From x 3, y 3 a way leads to one side only
         String[] ways = {"cut 0 3 4 1;", "cut 3 3 5 1;", "cut 3 0 1 4;", "cut 3 3 1 5;"};
         String[] stops = {"bar 1 3 1 1;", "bar 6 3 1 1;", "bar 3 1 1 1;", "bar 3 6 1 1;"};
@@ -116,8 +105,8 @@ final class ShapeBoundaries {
     }
 
     private void letters() {
-        check.says(7, "Of a LETTER: 0 how many have INK, 1 EDGE, 2 BROAD, 3 its first HOLLOW (NONE), "
-                + "4 how many it has.");
+        check.says(7, "Of a LETTER: 0 how many have INK, 1 EDGE, 2 BROAD, 3 its first HOLLOW (NONE), 4 how many it "
+                + "has.");
         HollowPunches x = Texts.of("letter;" + FULL + O + EIGHTEEN);
         int[][] due = {{0, 0, 0, NONE, 0}, {64, 0, 8, NONE, 0}, {12, 12, 4, 0, 1}, {46, 18, 8, 1, 15}};
         for (int letter = 0; letter < 4; letter++) {
@@ -281,8 +270,8 @@ final class ShapeBoundaries {
     }
 
     private void leastSets() {
-        check.says(11, "COUNTERPUNCHES: the fewest HOLLOWS so that each is SERVED by one of these (itself, too); "
-                + "of these sets the least (bits).");
+        check.says(11, "COUNTERPUNCHES: the fewest HOLLOWS so that each is SERVED by one of these (itself, too); of "
+                + "these sets the least (bits).");
         HollowPunches x = Texts.of(ROWS);
         check.same("within 0 each serves itself", x.punches(0, false, 1), 15);
         check.same("within 1: 2 and 3 squares, or others", x.punches(1, false, 1), 3);
@@ -321,8 +310,7 @@ final class ShapeBoundaries {
         HollowPunches sixteen = Texts.of(EIGHTEEN);
         check.same("sixteen alike", sixteen.punches(0, false, 0), 1);
         check.same("sixteen alike", sixteen.punches(0, false, 1), 1);
-        // Fifteen single squares, and the last hollow of two
-        HollowPunches last = Texts.of(EIGHTEEN + "bar 5 5 1 1;bar 4 6 1 1;cut 5 6 1 1;");
+        HollowPunches last = Texts.of(LAST_OF_TWO);
         check.same("how many", last.punches(0, false, 0), 2);
         check.same("the first and the last", last.punches(0, false, 1), 1 + (1 << 15));
         check.same("within 1", last.punches(1, false, 1), 1);
@@ -360,8 +348,8 @@ final class ShapeBoundaries {
     }
 
     private void upToInk() {
-        check.says(14, "BITES: a file along a row (from the left, or the right), or a column (from above, below) takes "
-                + "all there, up to the first INK;");
+        check.says(14, "BITES: a file along a row (from the left, or the right), or a column (from above, below) "
+                + "takes all there, up to the first INK;");
         // One bite each, which stops at the ink; behind it a square is hidden
         String[] cuts = {"cut 0 3 2 1;cut 3 3 1 1;", "cut 6 3 2 1;cut 4 3 1 1;", "cut 3 0 1 2;cut 3 3 1 1;",
             "cut 3 6 1 2;cut 3 4 1 1;"};
@@ -396,8 +384,8 @@ final class ShapeBoundaries {
     }
 
     private void lineBits() {
-        check.says(14, "LINES as bits: rows from the left 0 to 7, from the right 8 to 15, columns from above 16 to 23, "
-                + "from below 24 to 31 (one without INK: as from the left, from above).");
+        check.says(14, "LINES as bits: rows from the left 0 to 7, from the right 8 to 15, columns from above 16 to "
+                + "23, from below 24 to 31 (one without INK: as from the left, from above).");
         for (int i = 0; i < 8; i++) {
             HollowPunches x = Texts.of(FULL + "cut 0 " + i + " 2 1;" + FULL + "cut 6 " + i + " 2 1;" + FULL + "cut " + i
                     + " 0 1 2;" + FULL + "cut " + i + " 6 1 2;");
@@ -425,7 +413,8 @@ final class ShapeBoundaries {
         for (int k = 0; k < 4; k++) {
             check.same("a corner, by its row", Texts.of(FULL + corners[k]).lines(0), 1L << rows[k]);
         }
-        check.same("all corners", Texts.of(FULL + String.join("", corners)).lines(0), 1L | 1L << 8 | 1L << 7 | 1L << 15);
+        HollowPunches all = Texts.of(FULL + String.join("", corners));
+        check.same("all corners", all.lines(0), 1L | 1L << 8 | 1L << 7 | 1L << 15);
         HollowPunches x = Texts.of("letter;bar 0 0 7 7;" + FULL + "cut 0 0 3 3;" + FULL + "cut 0 0 4 3;" + FULL
                 + "cut 0 0 3 4;" + FULL + "cut 0 0 3 1;cut 0 1 1 2;" + FULL + "cut 0 2 8 1;cut 2 0 1 8;");
         check.same("a row and a column", x.lines(0), 1L << 7 | 1L << 23);
@@ -438,7 +427,8 @@ final class ShapeBoundaries {
         HollowPunches stairs = Texts.of(FULL + "cut 0 0 4 1;cut 0 1 3 1;cut 0 2 2 1;cut 0 3 1 1;");
         check.same("stairs: rows are the least", stairs.lines(0), 15);
         check.same("stairs: four", stairs.bites(0, 0), 4);
-        HollowPunches many = Texts.of(FULL + "cut 0 0 3 8;" + FULL + "cut 0 0 8 3;" + FULL + "cut 5 0 3 8;cut 0 6 8 2;");
+        HollowPunches many = Texts.of(FULL + "cut 0 0 3 8;" + FULL + "cut 0 0 8 3;" + FULL
+                + "cut 5 0 3 8;cut 0 6 8 2;");
         check.same("three columns, not eight rows", many.lines(0), 7L << 16);
         check.same("three rows, not eight columns", many.lines(1), 7);
         check.same("two rows and three columns", many.lines(2), 3L << 6 | 7L << 21);

@@ -1,23 +1,14 @@
 /** Boundary cases of the tape and of the text that it carries: promises 1 to 5, and what the terms say of a SHEET. */
-final class SheetBoundaries {
-    private static final int NONE = HollowPunches.NONE;
-    private static final int LOW = Integer.MIN_VALUE;
-    private static final int HIGH = Integer.MAX_VALUE;
+final class SheetBoundaries extends Boundaries {
     private static final int STRANGE = 1;
     private static final int NO_SUCH_NUMBER = 2;
     private static final int TOO_MANY = 3;
-    private static final String O = "letter;ring 0 0 4 4;";
-    private static final String TEN = Texts.times(10, "letter;");
-    /** Nine hollows of one square each. */
-    private static final String NINE = "letter;bar 0 0 8 8;cut 1 1 1 1;cut 3 1 1 1;cut 5 1 1 1;cut 1 3 1 1;"
-            + "cut 3 3 1 1;cut 5 3 1 1;cut 1 5 1 1;cut 3 5 1 1;cut 5 5 1 1;";
-
-    private final DocCheck check;
 
     SheetBoundaries(DocCheck check) {
-        this.check = check;
+        super(check);
     }
 
+    @Override
     void run() {
         newObject();
         lettersOfNewObject();
@@ -114,8 +105,8 @@ final class SheetBoundaries {
     }
 
     private void lastCall() {
-        check.says(3, "An object is used for at most 512 calls after it has been made; "
-                + "what later calls answer is free.");
+        check.says(3, "An object is used for at most 512 calls after it has been made; what later calls answer is "
+                + "free.");
         HollowPunches x = new HollowPunches();
         for (int calls = 0; calls < 510; calls += 2) {
             check.same("feed", x.feed(0x6c657474, 0x65723b20, 0x6c657474, 0x65723b20, 0x20202020), 20);
@@ -170,7 +161,7 @@ final class SheetBoundaries {
         Texts.put(x, "xx");
         check.same("sheet(0) on a tape", x.sheet(0), 0);
         check.same("the tape is empty", x.count(3), 0);
-        Texts.put(x, TEN);
+        Texts.put(x, TEN_LETTERS);
         check.same("ten", x.sheet(70), 10);
         check.same("no fault", x.fault(), NONE);
         Texts.put(x, " ".repeat(20));
@@ -181,7 +172,8 @@ final class SheetBoundaries {
     private void allNew() {
         check.says(3, "The first n bytes of the TAPE (empty then) are the SHEET");
         String first = "letter;bar 0 0 8 8;cut 1 1 2 2;cut 5 5 1 1;cut 0 3 2 1;letter;bar 0 0 1 8;word 0;word 1;";
-        String second = "letter;bar 0 0 8 8;cut 5 5 1 1;cut 3 6 1 2;letter;bar 0 0 2 8;letter;bar 0 0 1 8;word 2;word 1;";
+        String second = "letter;bar 0 0 8 8;cut 5 5 1 1;cut 3 6 1 2;letter;bar 0 0 2 8;letter;bar 0 0 1 8;"
+                + "word 2;word 1;";
         HollowPunches x = new HollowPunches();
         for (int turn = 0; turn < 3; turn++) {
             check.same("the first", Texts.tell(x, first), 2);
@@ -248,7 +240,7 @@ final class SheetBoundaries {
 
     private void allStays() {
         check.says(3, "or the FAULT less 10 (all stays).");
-        String[] texts = {"letter;letter;x", "letter;letter;word 02;", TEN + "letter;"};
+        String[] texts = {"letter;letter;x", "letter;letter;word 02;", TEN_LETTERS + "letter;"};
         for (int k = 0; k < 3; k++) {
             HollowPunches x = busy();
             check.same("the fault less 10", Texts.tell(x, texts[k]), k + 1 - 10);
@@ -334,7 +326,7 @@ final class SheetBoundaries {
         fault("letter" + " ".repeat(494), STRANGE, 500);
         fault(" ".repeat(492) + "letter;x", STRANGE, 499);
         // 500 bytes hold 55 clauses at most: ten letters, six words of one digit, the rest of ten bytes each
-        String most = TEN + Texts.times(6, "word0;") + Texts.times(39, "spread1 1;");
+        String most = TEN_LETTERS + Texts.times(6, "word0;") + Texts.times(39, "spread1 1;");
         right(most, 10);
         fault(most + "bar ", STRANGE, 500);
     }
@@ -342,10 +334,10 @@ final class SheetBoundaries {
     private void letters() {
         check.says(3, "CLAUSE: \"letter\" (a LETTER, numbered from 0 on, 10 at most: no INK at first),");
         right("letter;", 1);
-        right(TEN, 10);
-        fault(TEN + "letter;", TOO_MANY, 70);
-        fault(TEN + " letter", TOO_MANY, 71);
-        HollowPunches x = Texts.of(TEN + "bar 7 7 1 1;");
+        right(TEN_LETTERS, 10);
+        fault(TEN_LETTERS + "letter;", TOO_MANY, 70);
+        fault(TEN_LETTERS + " letter", TOO_MANY, 71);
+        HollowPunches x = Texts.of(TEN_LETTERS + "bar 7 7 1 1;");
         for (int letter = 0; letter < 9; letter++) {
             check.same("no ink in " + letter, x.squares(letter, 0), 0);
         }
@@ -364,7 +356,7 @@ final class SheetBoundaries {
         check.same("no ink", x.squares(4, 0), 0);
         check.same("all ink", x.squares(6, 0), -1L);
         right(Texts.times(9, "letter;") + "turned 8;", 10);
-        fault(TEN + "turned 0;", TOO_MANY, 70);
+        fault(TEN_LETTERS + "turned 0;", TOO_MANY, 70);
         HollowPunches y = Texts.of(corner + "turned 0;bar 3 3 1 1;");
         check.same("it is the latest letter then", y.squares(1, 0), 1L << 63 | 1L << 62 | 1L << 39 | 1L << 27);
         check.same("the first one stays", y.squares(0, 0), 3 | 1L << 24);
@@ -375,7 +367,7 @@ final class SheetBoundaries {
         check.same("no ink", z.squares(4, 0), 0);
         check.same("all ink", z.squares(6, 0), -1L);
         right(Texts.times(9, "letter;") + "mirror 8;", 10);
-        fault(TEN + "mirror 0;", TOO_MANY, 70);
+        fault(TEN_LETTERS + "mirror 0;", TOO_MANY, 70);
         for (int at = 0; at < 64; at++) {
             HollowPunches one = Texts.of("letter;bar " + at % 8 + " " + at / 8 + " 1 1;turned 0;mirror 0;");
             check.same("square " + at + " turned", one.squares(1, 0), 1L << 63 - at);
@@ -426,7 +418,7 @@ final class SheetBoundaries {
         right("letter;word 0;", 1);
         right("letter;word 00000000;", 1);
         fault("letter;word 000000000;", NO_SUCH_NUMBER, 12);
-        right(TEN + "word 0123456;word 9;", 10);
+        right(TEN_LETTERS + "word 0123456;word 9;", 10);
         fault(Texts.times(9, "letter;") + "word 9;", NO_SUCH_NUMBER, 68);
         right("letter;" + Texts.times(6, "word 0;"), 1);
         fault("letter;" + Texts.times(7, "word 0;"), TOO_MANY, 49);
@@ -589,8 +581,8 @@ final class SheetBoundaries {
     }
 
     private void earlyEnds() {
-        check.says(4, "1 what can't stand there (at the length, if the text ends too early; "
-                + "bar, ring, cut ahead of any LETTER);");
+        check.says(4, "1 what can't stand there (at the length, if the text ends too early; bar, ring, cut ahead of "
+                + "any LETTER);");
         String text = "letter ; bar 0 1 2 3 ;turned 0;  mirror 1;ring 1 1 7 7; cut 2 2 1 1;word 012; spread 9 16 ;  ";
         int letters = 0;
         for (int n = 0; n <= text.length(); n++) {
@@ -612,8 +604,8 @@ final class SheetBoundaries {
     }
 
     private void strangeThings() {
-        check.says(4, "1 what can't stand there (at the length, if the text ends too early; "
-                + "bar, ring, cut ahead of any LETTER);");
+        check.says(4, "1 what can't stand there (at the length, if the text ends too early; bar, ring, cut ahead of "
+                + "any LETTER);");
         for (String word : new String[] {"bar", "ring", "cut"}) {
             fault(word + " 0 0 1 1;", STRANGE, 0);
             fault(word + " 9 9 9 9;", STRANGE, 0);
@@ -647,20 +639,20 @@ final class SheetBoundaries {
         fault("letter;word 01x;", NO_SUCH_NUMBER, 12);
         fault("letter;turned 1;", NO_SUCH_NUMBER, 14);
         fault("letter;mirror 9;", NO_SUCH_NUMBER, 14);
-        right(TEN + "word 90;", 10);
+        right(TEN_LETTERS + "word 90;", 10);
     }
 
     private void tooMany() {
         check.says(4, "3 a CLAUSE, LETTER or WORD too many (at its word); of one the least.");
-        fault(TEN + "  letter;", TOO_MANY, 72);
-        fault(TEN + "turned 99;", TOO_MANY, 70);
-        fault(TEN + "mirror;", TOO_MANY, 70);
-        fault(TEN + "turned x", TOO_MANY, 70);
+        fault(TEN_LETTERS + "  letter;", TOO_MANY, 72);
+        fault(TEN_LETTERS + "turned 99;", TOO_MANY, 70);
+        fault(TEN_LETTERS + "mirror;", TOO_MANY, 70);
+        fault(TEN_LETTERS + "turned x", TOO_MANY, 70);
         fault("letter;" + Texts.times(6, "word 0;") + " word;", TOO_MANY, 50);
         fault("letter;" + Texts.times(6, "word 0;") + "word 9;", TOO_MANY, 49);
-        fault(TEN + "letters;", STRANGE, 70);
-        fault(TEN + ";", STRANGE, 70);
-        right(TEN + "bar 0 0 1 1;word 9;spread 1 1;", 10);
+        fault(TEN_LETTERS + "letters;", STRANGE, 70);
+        fault(TEN_LETTERS + ";", STRANGE, 70);
+        right(TEN_LETTERS + "bar 0 0 1 1;word 9;spread 1 1;", 10);
         right("letter;" + Texts.times(6, "word 0;") + "letter;", 2);
         right(Texts.times(8, "letter;") + "turned 0;mirror 0;", 10);
         fault("letter;turned 0;mirror 1;" + Texts.times(7, "letter;") + "letter;", TOO_MANY, 74);
