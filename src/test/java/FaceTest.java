@@ -7,7 +7,6 @@ import java.lang.reflect.Modifier;
 import java.nio.file.Files;
 import java.nio.file.Path;
 import java.util.ArrayList;
-import java.util.Arrays;
 import java.util.List;
 import java.util.Set;
 import java.util.TreeSet;
@@ -16,19 +15,6 @@ import java.util.regex.Pattern;
 
 /** The public face, as the document writes it, and those rules of the language that can be read off the text. */
 public final class FaceTest {
-    private static final String[] FACE = {
-        "int feed(int,int,int,int,int)", "int sheet(int)", "int fault()", "int told(int)", "long squares(int,int)",
-        "int letter(int,int)", "long hollow(int)", "long shape(long)", "int apart(int,int,boolean)",
-        "int punches(int,boolean,int)", "int served(int,int,boolean)", "int bites(int,int)", "long lines(int)",
-        "void begin(int)", "int blow(int)", "int file(int,int,int)", "long steel()", "int punch(int)",
-        "int addBlow(int)", "int addFile(int,int,int)", "int clear()", "int judge(int,int)",
-        "long hours(int,int,int)", "int order(int,int,int,int)", "int black(int,int)", "int colour(int,int,int)",
-        "int uneven(int,int)", "int even(int)", "int press(int)", "int print(long)",
-        "boolean kin(int,int,int,boolean)", "int partings(int,boolean,int)", "boolean can()", "int left()",
-        "long bars(int,int,int)", "int nearest(long,boolean,int)", "int originals(boolean,int)",
-        "int fount(int,int,boolean)", "int image()", "int restore()", "int count(int)",
-    };
-
     private static final String[] FORBIDDEN = {
         "->", "::", "\\bcatch\\b", "\\bfinally\\b", "\\btry\\b", "\\bsynchronized\\b", "\\bassert\\b",
         "\\bwhile \\(true\\)", "for \\([^;]*; ;", "\\bSystem\\.(?!arraycopy)", "\\bObject\\b", "\\bRandom\\b",
@@ -39,7 +25,7 @@ public final class FaceTest {
     private static final List<String> wrong = new ArrayList<>();
 
     public static void main(String[] args) throws IOException {
-        members();
+        members(faceOf(Files.readString(Path.of(System.getProperty("document")))));
         List<String> lines = Files.readAllLines(Path.of(System.getProperty("source")));
         String text = String.join("\n", lines);
         forbidden(lines);
@@ -57,7 +43,21 @@ public final class FaceTest {
         }
     }
 
-    private static void members() {
+    /** The methods of the document's face: type, name, types of the parameters, and what is thrown, in its order. */
+    private static Set<String> faceOf(String document) {
+        String face = document.substring(document.indexOf("## The public face"), document.indexOf("## Terms"));
+        Matcher m = Pattern.compile("public (\\w+) (\\w+)\\(([^)]*)\\)( throws [^;]*)?;").matcher(face);
+        Set<String> all = new TreeSet<>();
+        while (m.find()) {
+            String types = m.group(3).replaceAll(" \\w+(, |$)", ",").replaceAll(",$", "");
+            String thrown = m.group(4) == null ? "" : m.group(4);
+            all.add(m.group(1) + " " + m.group(2) + "(" + types + ")" + thrown);
+        }
+        expect(all.size() == 41, "the document's face has " + all.size() + " methods");
+        return all;
+    }
+
+    private static void members(Set<String> due) {
         Class<?> face = HollowPunches.class;
         expect(Modifier.isPublic(face.getModifiers()) && Modifier.isFinal(face.getModifiers()), "public and final");
         Set<String> open = new TreeSet<>();
@@ -72,7 +72,7 @@ public final class FaceTest {
                 expect(Modifier.isPublic(m.getModifiers()) && !Modifier.isStatic(m.getModifiers()), m + " is open");
             }
         }
-        expect(open.equals(new TreeSet<>(Arrays.asList(FACE))), "the face is " + open);
+        expect(open.equals(due), "the face is " + open + ", due is " + due);
         for (Class<?> inner : face.getDeclaredClasses()) {
             expect(Modifier.isStatic(inner.getModifiers()), inner + " is not static");
             for (Method m : inner.getDeclaredMethods()) {
@@ -101,7 +101,11 @@ public final class FaceTest {
         for (Class<?> type : m.getParameterTypes()) {
             s.append(s.charAt(s.length() - 1) == '(' ? "" : ",").append(type);
         }
-        return s.append(")").toString();
+        s.append(")");
+        for (Class<?> type : m.getExceptionTypes()) {
+            s.append(s.charAt(s.length() - 1) == ')' ? " throws " : ", ").append(type.getSimpleName());
+        }
+        return s.toString();
     }
 
     private static void forbidden(List<String> lines) {
